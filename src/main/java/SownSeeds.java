@@ -376,7 +376,7 @@ public final class SownSeeds {
         static int lifted(int kind, int seeds) {
             switch (kind) {
                 case DEEP:
-                    return Math.max(seeds - 1, 0);
+                    return seeds > 0 ? seeds - 1 : 0;
                 case BARRED:
                     return 0;
                 case MEAN:
@@ -893,7 +893,8 @@ public final class SownSeeds {
         }
 
         int bestGift(Board board, int d) {
-            int most = bestLead(board, d);
+            behind[0].copy(board);
+            int most = search(0, d, -BOUND, BOUND);
             int found = NONE;
             for (int house = 0; house < board.houses(); house++) {
                 if (board.sideOf(house) == board.turn()) {
