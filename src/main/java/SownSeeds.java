@@ -649,73 +649,61 @@ public final class SownSeeds {
         private boolean readClause(Board draft) {
             advance();
             int word = word();
+            if (word == NONE) {
+                return false;
+            }
+            int first = readFirst(word, draft.houses());
+            if (first == NONE) {
+                return false;
+            }
+            int second = readSecond(word);
+            if (second == NONE) {
+                return false;
+            }
+            perform(draft, word, first, second);
+            return true;
+        }
+
+        private int readFirst(int word, int houses) {
             switch (word) {
-                case NONE:
-                    return false;
                 case BOARD:
-                    return readBoard(draft);
-                case SEEDS:
-                    return readSeeds(draft);
+                    return readNumber(Board.LEAST_WIDTH, Board.MOST_WIDTH);
                 case BARN:
-                    return readBarn(draft);
                 case TURN:
-                    return readTurn(draft);
+                    return readNumber(0, 1);
                 default:
-                    return readKind(draft, word);
+                    return readNumber(0, houses - 1);
             }
         }
 
-        private boolean readBoard(Board draft) {
-            int width = readNumber(Board.LEAST_WIDTH, Board.MOST_WIDTH);
-            if (width == NONE) {
-                return false;
+        private int readSecond(int word) {
+            switch (word) {
+                case SEEDS:
+                    return readNumber(0, 30);
+                case BARN:
+                    return readNumber(0, 99);
+                default:
+                    return 0;
             }
-            draft.setUp(width);
-            return true;
         }
 
-        private boolean readKind(Board draft, int kind) {
-            int house = readNumber(0, draft.houses() - 1);
-            if (house == NONE) {
-                return false;
+        private static void perform(Board draft, int word, int first, int second) {
+            switch (word) {
+                case BOARD:
+                    draft.setUp(first);
+                    break;
+                case SEEDS:
+                    draft.setSeeds(first, second);
+                    break;
+                case BARN:
+                    draft.setBarn(first, second);
+                    break;
+                case TURN:
+                    draft.setTurn(first);
+                    break;
+                default:
+                    draft.setKind(first, word);
             }
-            draft.setKind(house, kind);
-            return true;
-        }
-
-        private boolean readSeeds(Board draft) {
-            int house = readNumber(0, draft.houses() - 1);
-            if (house == NONE) {
-                return false;
-            }
-            int number = readNumber(0, 30);
-            if (number == NONE) {
-                return false;
-            }
-            draft.setSeeds(house, number);
-            return true;
-        }
-
-        private boolean readBarn(Board draft) {
-            int side = readNumber(0, 1);
-            if (side == NONE) {
-                return false;
-            }
-            int number = readNumber(0, 99);
-            if (number == NONE) {
-                return false;
-            }
-            draft.setBarn(side, number);
-            return true;
-        }
-
-        private boolean readTurn(Board draft) {
-            int side = readNumber(0, 1);
-            if (side == NONE) {
-                return false;
-            }
-            draft.setTurn(side);
-            return true;
         }
 
         private int readNumber(int least, int most) {
