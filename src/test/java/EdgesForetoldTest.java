@@ -19,6 +19,7 @@ public final class EdgesForetoldTest {
     public static void main(String[] args) {
         EdgesForetoldTest t = new EdgesForetoldTest();
         t.leadBelowNothing();
+        t.theLastHouseAlone();
         t.bringsRefuses();
         t.bringsNothingOrAll();
         t.bestBounds();
@@ -37,6 +38,7 @@ public final class EdgesForetoldTest {
         t.giftMoreThanWithout();
         t.giftOf99AtMost();
         t.giftOfSeveral();
+        t.giftOfOneSeedAlone();
         t.giftOfTheSideWhoseTurnItIs();
         t.giftWhenOver();
         t.luckBounds();
@@ -44,6 +46,7 @@ public final class EdgesForetoldTest {
         t.luckWhenOverSooner();
         t.luckInLowestTerms();
         t.luckEachThatGoes();
+        t.luckOfAllMoves();
         t.seenOutside();
         t.seenAtMost6();
         t.forgetNothing();
@@ -79,6 +82,32 @@ public final class EdgesForetoldTest {
         c.tell(x, "barn 1 99");
         c.due("best(1, -1)", x.best(1, NONE), 5000);
         c.due("rash(0)", x.rash(0), 5000);
+    }
+
+    private void theLastHouseAlone() {
+        c.part("HOUSES are 0 .. 2 h less 1: FORETOLD of the last one, which alone GOES");
+        for (int h = 2; h <= 5; h++) {
+            int last = 2 * h - 1;
+            StringBuilder text = new StringBuilder("board " + h + ";turn 1;seeds 0 1");
+            for (int house = 1; house < 2 * h; house++) {
+                text.append(";seeds ").append(house).append(house == last ? " 1" : " 0");
+            }
+            String[] calls = {"rash", "over", "best", "luck", "gift"};
+            for (String call : calls) {
+                // On an object of its own each, as it would be the first of what is FORETOLD.
+                lastHouseBy(call, c.told(text.toString()), last);
+            }
+        }
+    }
+
+    private void lastHouseBy(String call, SownSeeds x, int last) {
+        switch (call) {
+            case "rash" -> c.due("rash(1)", x.rash(1), 4998);
+            case "over" -> c.due("over()", x.over(), 1);
+            case "best" -> bestIs(x, 5, 2, last);
+            case "luck" -> luckIs(x, 3, 1, 1);
+            default -> c.due("gift(1)", x.gift(1), NONE);
+        }
     }
 
     private void bringsRefuses() {
@@ -329,6 +358,15 @@ public final class EdgesForetoldTest {
         c.due("gift(1)", x.gift(1), 2);
     }
 
+    private void giftOfOneSeedAlone() {
+        c.part("GIFT: one SEED more in one HOUSE");
+        // 15 of 0, 15 of 1, to their BARN one behind the other: one more in either brings 16, of which 0 is the least.
+        SownSeeds x = c.told("board 2;mean 0;mean 1;barred 2;mean 3;seeds 0 30;seeds 1 30;seeds 3 30");
+        bestIs(x, 3, 15, 0, 3, 1);
+        c.due("gift(3)", x.gift(3), 0);
+        c.due("gift(3) again", x.gift(3), 0);
+    }
+
     private void giftOfTheSideWhoseTurnItIs() {
         c.part("GIFT: the HOUSE of the SIDE whose TURN it is");
         // One more in HOUSE 2 of the other SIDE would yield 3 rather than 2; that is no gift.
@@ -411,6 +449,60 @@ public final class EdgesForetoldTest {
         luckIs(c.told("seeds 0 0;seeds 2 1;seeds 3 1"), 1, 1, 2);
         luckIs(c.told("seeds 0 0;barred 1;seeds 2 1;seeds 3 1"), 1, 1, 1);
         luckIs(c.told("deep 0;seeds 0 1;mean 1;seeds 1 0;seeds 2 1;seeds 3 1"), 1, 1, 1);
+    }
+
+    private static long commonDivisor(long one, long other) {
+        return other == 0 ? one : commonDivisor(other, one % other);
+    }
+
+    // Above and below, by MOVES that are done and undone.
+    private static long[] luckByMoves(SownSeeds x, int n, int side) {
+        int lead = side == 0 ? x.count(3) - x.count(4) : x.count(4) - x.count(3);
+        int going = x.count(6);
+        boolean isSides = x.count(2) == side;
+        long ways = Integer.bitCount(going);
+        long[] sum = {ways == 0 && lead > 0 ? 1 : 0, 1};
+        for (int house = 0; house < 10; house++) {
+            if ((going >> house & 1) == 1) {
+                long[] part = {0, 1};
+                if (n == 1) {
+                    int brought = x.brings(house);
+                    part[0] = lead + (isSides ? brought : -brought) > 0 ? 1 : 0;
+                } else {
+                    x.move(house);
+                    part = luckByMoves(x, n - 1, side);
+                    x.undo();
+                }
+                sum = new long[] {sum[0] * part[1] * ways + part[0] * sum[1], sum[1] * part[1] * ways};
+                long common = commonDivisor(sum[1], sum[0]);
+                sum = new long[] {sum[0] / common, sum[1] / common};
+            }
+        }
+        return sum;
+    }
+
+    private void luckOfAllMoves() {
+        c.part("LUCK, of all MOVES that there are, up to 5 by 5 by 5");
+        luckIs(c.told("board 2"), 3, 3, 8);
+        luckIs(c.told("board 5;seeds 7 2;seeds 9 5"), 3, 27, 125);
+        luckIs(c.told("board 5;seeds 2 1;seeds 5 1;seeds 6 4;seeds 9 1"), 3, 2419, 6000);
+        String[] texts = {
+            "board 2",
+            "board 3;seeds 2 4;seeds 4 1",
+            "board 4;seeds 1 5;seeds 4 1",
+            "board 4;turn 1;seeds 0 5;seeds 1 1;seeds 6 1",
+            "board 5;seeds 7 2;seeds 9 5",
+            "board 5;turn 1;seeds 2 1;seeds 5 1",
+            "board 5;seeds 2 1;seeds 5 1;seeds 6 4;seeds 9 1",
+        };
+        for (String text : texts) {
+            for (int n = 1; n <= 3; n++) {
+                SownSeeds x = c.told(text);
+                long[] want = luckByMoves(x, n, x.count(2));
+                c.holds("it is neither sure nor out of reach: " + text, n < 3 || want[0] > 0 && want[0] < want[1]);
+                luckIs(x, n, (int) want[0], (int) want[1]);
+            }
+        }
     }
 
     // ---- what was seen

@@ -18,7 +18,7 @@ public final class EdgesOfBoxesTest {
         t.inOneOtherAtMost();
         t.boxSizes();
         t.boxInPlaceOfAnOldOne();
-        t.boxOfTheSameNumberIsNew();
+        t.boxRefusedLeavesTheOldOne();
         t.putUnknown();
         t.putOutside();
         t.putNumbers();
@@ -170,7 +170,7 @@ public final class EdgesOfBoxesTest {
         c.due("put(1, 0, 1), the room of the new one", x.put(1, 0, 1), ROOM);
     }
 
-    private void boxOfTheSameNumberIsNew() {
+    private void boxRefusedLeavesTheOldOne() {
         c.part("promise 24: a refused one leaves the old one as it was");
         SownSeeds x = withBoxes(2);
         x.put(0, 2, 1);
@@ -332,9 +332,8 @@ public final class EdgesOfBoxesTest {
             c.due("take(0, " + what + ")", x.take(0, what), EMPTY);
             c.due("take(1, " + what + "), no room", x.take(1, what), EMPTY);
         }
-        int[] laid = {1, 1, 1};
         for (int what = 0; what <= 2; what++) {
-            x.put(0, what, laid[what]);
+            x.put(0, what, 1);
             for (int as = 0; as <= 2; as++) {
                 if (as != what) {
                     c.due("take(0, " + as + "), of what " + what, x.take(0, as), CAST);

@@ -546,6 +546,17 @@ public final class EdgesOfMovesTest {
         c.due("undo()", x.undo(), NOT);
         // The first of nine can't be undone any more.
         c.seeds(x, 5, 4, 4, 4, 4, 4);
+        c.part("promise 11: the last 8, each as it was");
+        SownSeeds y = new SownSeeds();
+        for (int n = 0; n < 20; n++) {
+            y.drop(5, 1);
+        }
+        for (int n = 7; n >= 0; n--) {
+            c.due("undo()", y.undo(), n);
+            c.due("house(5, 1)", y.house(5, 1), 4 + 12 + n);
+        }
+        c.due("undo()", y.undo(), NOT);
+        c.due("house(5, 1)", y.house(5, 1), 16);
     }
 
     private void undoOfEach() {

@@ -30,6 +30,7 @@ public final class EdgesOfTextsTest {
         t.oneOrTwoDigits();
         t.blanksBetween();
         t.earlierTextsStay();
+        t.wordsAsWritten();
         t.tokenThatCannotStand();
         t.endTooSoon();
         t.clausesInTheirOrder();
@@ -365,6 +366,22 @@ public final class EdgesOfTextsTest {
         c.seeds(x, 4, 9, 4, 1);
     }
 
+    private void wordsAsWritten() {
+        c.part("each is one of: board H. plain K. .. turn S. (As written here)");
+        String[] whole = {"board 3", "plain 1", "deep 1", "rich 1", "barred 1", "mean 1", "seeds 1 1", "barn 1 1", "turn 1"};
+        for (String clause : whole) {
+            int end = clause.indexOf(' ');
+            faultOf(clause, NONE);
+            faultOf(clause.substring(1), 0);
+            faultOf(clause.substring(0, end - 1) + clause.substring(end), 0);
+            // Each letter matters, the first and the last too.
+            for (int n = 0; n < end; n++) {
+                faultOf(clause.substring(0, n) + 'q' + clause.substring(n + 1), 0);
+            }
+            faultOf(clause + ".", clause.length());
+        }
+    }
+
     private void tokenThatCannotStand() {
         c.part("A FAULT is at the first TOKEN that cannot stand there");
         faultOf("1", 0);
@@ -538,6 +555,15 @@ public final class EdgesOfTextsTest {
         Checks.write(x, "turn 0");
         c.due("board(), now without one", x.board(), 6);
         c.seeds(x, 4, 9, 4, 4);
+        c.part("promise 4: what a text would tell is not told by its FAULT");
+        SownSeeds y = new SownSeeds();
+        faultOf(y, "board 5;deep 9;", 15);
+        faultOf(y, "board 5;deep 9", NONE);
+        faultOf(y, "deep 9", 5);
+        Checks.write(y, "board 5;");
+        c.due("board()", y.board(), NOT);
+        y.erase();
+        faultOf(y, "deep 9", 5);
     }
 
     private void boardTellsHowMany() {
